@@ -181,6 +181,9 @@ public final class MaskTest {
         Check.is("empty under some", 2, x.empty(1, 0, 2));
         Check.mask(x, "empty under some", 1, "1 3");
         Check.is("empty of a full column", 0, x.empty(1, 1, 0));
+        x.clear(1, 0);
+        Check.is("empty in the first row", 1, x.empty(1, 1, 0));
+        Check.mask(x, "empty in the first row", 1, "0");
         for (int m : NO_MASKS) {
             Check.refusedUnchanged(x, "empty to " + m, Check.INDEX, () -> x.empty(m, 0, 0));
             Check.refusedUnchanged(x, "empty under " + m, Check.INDEX, () -> x.empty(0, 0, m));

@@ -85,8 +85,9 @@ public final class ModelTest {
         if (chance.nextInt(20) == 0) {
             return;
         }
-        int columns = 1 + chance.nextInt(4);
-        int rows = 1 + chance.nextInt(chance.nextInt(4) == 0 ? 192 : 12);
+        int[] wordEdges = {63, 64, 65, 127, 128, 129, 191, 192};
+        int columns = 1 + chance.nextInt(chance.nextInt(4) == 0 ? 6 : 3);
+        int rows = chance.nextInt(4) == 0 ? wordEdges[chance.nextInt(8)] : 1 + chance.nextInt(12);
         for (int c = 0; c < columns; c++) {
             int width = width();
             program.column(width);

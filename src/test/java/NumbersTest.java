@@ -122,6 +122,9 @@ public final class NumbersTest {
         Check.is("what is left", 1, x.mean(0, 0, 1));
         Check.is("mean", 5, x.mean(0, 1, 0));
         Check.is("what is left", 1, x.mean(0, 1, 1));
+        x.mask(1, 2, 0, 1);
+        Check.is("mean of one", 5, x.mean(0, 1, 0));
+        Check.is("what is left of one", 0, x.mean(0, 1, 1));
         noSuch(x, "mean what 2", () -> x.mean(0, 0, 2));
         noSuch(x, "mean what -1", () -> x.mean(0, 0, -1));
         noSuch(x, "mean what 2 without any", () -> x.mean(0, 7, 2));
