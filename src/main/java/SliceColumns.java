@@ -929,8 +929,9 @@ public final class SliceColumns {
         if (n < 0) {
             return number >> -n;
         }
-        long shifted = number << n;
-        return shifted >> n == number ? shifted : TOO_GREAT;
+        // Asked of the number, not of what comes: that may be the least long, which stands for EMPTY.
+        boolean fitsSome = number >= LEAST_NUMBER >> n && number <= GREATEST_NUMBER >> n;
+        return fitsSome ? number << n : TOO_GREAT;
     }
 
     private void gather(int column, int under) {

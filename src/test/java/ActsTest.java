@@ -171,8 +171,29 @@ public final class ActsTest {
         x.set(1, 0, 4);
         x.bits(4, 0, 1);
         Check.actRefused(x, "4 shift 62, which would wrap to 0", () -> x.shift(1, 62, 4));
+        shiftToTheEdge();
         for (int n : new int[] {-63, 63, 64, -64, Integer.MIN_VALUE, Integer.MAX_VALUE}) {
             Check.refusedUnchanged(x, "shift " + n, Check.ARGUMENT, () -> x.shift(0, n, 0));
+        }
+    }
+
+    /** What would come to be the least long, or the one after the most, FITS no column, as little as NOTHING does. */
+    private static void shiftToTheEdge() {
+        SliceColumns x = Check.table("63: 0");
+        for (int n = 1; n <= 62; n++) {
+            int by = n;
+            x.set(0, 0, Math.max(Long.MIN_VALUE >> n, LEAST));
+            Check.actRefused(x, "shift to the least long by " + n, () -> x.shift(0, by, 0));
+            x.set(0, 0, (LEAST >> n) - 1);
+            Check.actRefused(x, "shift below the least by " + n, () -> x.shift(0, by, 0));
+            x.set(0, 0, LEAST >> n);
+            Check.is("shift to the least by " + n, 1, x.shift(0, n, 0));
+            Check.column(x, 0, Long.toString(LEAST));
+            x.set(0, 0, (MOST >> n) + 1);
+            Check.actRefused(x, "shift beyond the most by " + n, () -> x.shift(0, by, 0));
+            x.set(0, 0, MOST >> n);
+            Check.is("shift below the most by " + n, 1, x.shift(0, n, 0));
+            Check.column(x, 0, Long.toString(MOST >> n << n));
         }
     }
 

@@ -15,7 +15,7 @@ public final class ModelTest {
 
     /**
      * Each call with how often it comes and what its arguments are: c column, r row, m mask, w word, v number, h how
-     * or what, b boolean, W width, N rows, k a small number, i image, t bit, s step, p parts, g great int.
+     * or what, b boolean, W width, N rows, k a small number, i image, t bit, s step, S shift, p parts, g great int.
      */
     private static final String[] CALLED = {
         "column 3 W", "drop 1 c", "rows 4 N", "set 20 crv", "clear 3 cr", "get 2 cr", "has 3 h", "width 4 ch",
@@ -24,7 +24,7 @@ public final class ModelTest {
         "row 4 mk", "word 2 mw", "count 2 cm", "sum 4 cm", "mean 5 cmh", "kth 5 cmk", "share 5 cmpp", "upset 4 cm",
         "rank 4 cmvh", "unlike 5 cmh", "ones 3 ctm", "where 4 cmv", "dot 5 ccm", "steps 4 cm", "upTo 4 crm",
         "fold 4 cmh", "spread 5 cm", "nearest 5 cmv", "box 6 cmvsk", "add 6 cvm", "plus 5 ccbm", "scale 5 ckm",
-        "shift 5 ckm", "hold 4 cvvm", "fill 5 cvm", "copy 4 ccm", "pick 4 ccbm", "wipe 2 cm", "widen 4 cW",
+        "shift 5 cSm", "hold 4 cvvm", "fill 5 cvm", "copy 4 ccm", "pick 4 ccbm", "wipe 2 cm", "widen 4 cW",
         "remove 1 m", "first 3 m", "sort 3 cb", "reverse 2 ", "swap 3 cc", "keep 2 i", "back 2 i"};
 
     private static final Map<String, Method> CALLS_BY_NAME = new HashMap<>();
@@ -189,6 +189,8 @@ public final class ModelTest {
                 return chance.nextInt(3) == 0 ? index(200, off) : chance.nextInt(14) - 5;
             case 'g':
                 return chance.nextInt(8) == 0 ? 200 - chance.nextInt(400) : 5 - chance.nextInt(10);
+            case 'S':
+                return chance.nextInt(3) == 0 ? 64 - chance.nextInt(129) : 63 - widthOf(column) + chance.nextInt(4) - 2;
             case 's':
                 return chance.nextInt(12) == 0 ? number() : Math.abs(number() / (1 + chance.nextInt(9)));
             default:
