@@ -10,7 +10,8 @@ import java.util.Random;
  * the whole state must be the same.
  */
 public final class ModelTest {
-    private static final int RUNS = 800;
+    private static final int RUNS = Integer.getInteger("runs", 800);
+    private static final int FIRST_SEED = Integer.getInteger("seed", 1);
     private static final int CALLS = 512;
 
     /**
@@ -53,7 +54,8 @@ public final class ModelTest {
     public static void main(String[] args) throws ReflectiveOperationException {
         Check.is("calls of the face", 58, CALLED.length);
         int[] answered = new int[CALLED.length];
-        for (int seed = 1; seed <= RUNS; seed++) {
+        for (int i = 0; i < RUNS; i++) {
+            int seed = FIRST_SEED + i;
             new ModelTest(seed).run(seed, answered);
         }
         for (int i = 0; i < CALLED.length; i++) {
@@ -217,13 +219,17 @@ public final class ModelTest {
     /** A number that fits, often an outermost one. */
     private long fitting(int width) {
         long most = (1L << (width - 1)) - 1;
-        switch (chance.nextInt(8)) {
+        switch (chance.nextInt(9)) {
             case 0:
                 return most - chance.nextInt(2);
             case 1:
                 return -most - 1 + chance.nextInt(2);
             case 2:
                 return chance.nextInt(4) - 2;
+            case 3:
+                // A power of two, or what is beside it.
+                long power = (-most - 1) >> chance.nextInt(width);
+                return Math.min(most, (chance.nextBoolean() ? power : -power) + chance.nextInt(2));
             default:
                 return chance.nextLong() >> (64 - width) >> chance.nextInt(width);
         }
