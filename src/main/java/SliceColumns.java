@@ -632,7 +632,7 @@ public final class SliceColumns {
             throws IndexOutOfBoundsException, IllegalArgumentException, ArithmeticException {
         needColumn(column);
         needMask(under);
-        needArgument(n >= -MOST_SHIFT && n <= MOST_SHIFT);
+        needArgument(n != 0 && n >= -MOST_SHIFT && n <= MOST_SHIFT);
         expectAsItIs(column);
         int many = 0;
         for (int row = 0; row < table.rowCount; row++) {

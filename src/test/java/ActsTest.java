@@ -153,8 +153,6 @@ public final class ActsTest {
         Check.column(x, 0, "1 - -2 1 0");
         Check.is("shift -2", 4, x.shift(0, -2, 0));
         Check.column(x, 0, "0 - -1 0 0");
-        Check.is("shift 0", 4, x.shift(0, 0, 0));
-        Check.column(x, 0, "0 - -1 0 0");
         for (int n : new int[] {1, 2, 31, 32, 61, 62}) {
             Check.actRefused(x, "shift " + n, () -> x.shift(1, n, 0));
         }
@@ -172,6 +170,7 @@ public final class ActsTest {
         x.bits(4, 0, 1);
         Check.actRefused(x, "4 shift 62, which would wrap to 0", () -> x.shift(1, 62, 4));
         shiftToTheEdge();
+        shiftByNone();
         for (int n : new int[] {-63, 63, 64, -64, Integer.MIN_VALUE, Integer.MAX_VALUE}) {
             Check.refusedUnchanged(x, "shift " + n, Check.ARGUMENT, () -> x.shift(0, n, 0));
         }
@@ -195,6 +194,21 @@ public final class ActsTest {
             Check.is("shift below the most by " + n, 1, x.shift(0, n, 0));
             Check.column(x, 0, Long.toString(MOST >> n << n));
         }
+    }
+
+    /** n is above 0 or below 0: 0 can't be, whether there are numbers or not. */
+    private static void shiftByNone() {
+        SliceColumns x = Check.table("8: 5 - -16", "2:");
+        Check.refusedUnchanged(x, "shift 0", Check.ARGUMENT, () -> x.shift(0, 0, 0));
+        Check.refusedUnchanged(x, "shift 0 of EMPTY ones", Check.ARGUMENT, () -> x.shift(1, 0, 0));
+        Check.refusedUnchanged(x, "shift 0 under none", Check.ARGUMENT, () -> x.shift(0, 0, 7));
+        Check.refusedUnchanged(x, "shift 0 of no column", Check.INDEX, () -> x.shift(2, 0, 0));
+        Check.refusedUnchanged(x, "shift 0 under no mask", Check.INDEX, () -> x.shift(0, 0, 8));
+        SliceColumns y = new SliceColumns();
+        y.column(2);
+        Check.refusedUnchanged(y, "shift 0 without rows", Check.ARGUMENT, () -> y.shift(0, 0, 0));
+        Check.is("shift 1 without rows", 0, y.shift(0, 1, 0));
+        Check.is("shift -1 without rows", 0, y.shift(0, -1, 0));
     }
 
     private static void hold() {

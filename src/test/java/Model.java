@@ -611,7 +611,7 @@ public final class Model {
 
     public int shift(int column, int n, int under) {
         List<BigInteger> all = asked(column, under);
-        argument(among(n, -62, 62));
+        argument(among(n, 1, 62) || among(n, -62, -1));
         change(column, numbered(column, under), r -> r.cells.get(column).shiftLeft(n));
         return all.size();
     }
