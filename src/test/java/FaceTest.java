@@ -47,11 +47,13 @@ public final class FaceTest {
         Set<String> faces = new TreeSet<>();
         for (Field field : SliceColumns.class.getDeclaredFields()) {
             if (Modifier.isPublic(field.getModifiers())) {
-                faces.add(Modifier.toString(field.getModifiers()) + " " + field.getType() + " " + field.getName() + ";");
+                String modifiers = Modifier.toString(field.getModifiers());
+                faces.add(modifiers + " " + field.getType() + " " + field.getName() + ";");
             }
         }
         for (Constructor<?> made : SliceColumns.class.getDeclaredConstructors()) {
-            faces.add("public SliceColumns(" + types(made.getParameterTypes()) + ")" + thrown(made.getExceptionTypes()));
+            faces.add("public SliceColumns(" + types(made.getParameterTypes()) + ")"
+                    + thrown(made.getExceptionTypes()));
         }
         for (Method method : SliceColumns.class.getDeclaredMethods()) {
             if (Modifier.isPublic(method.getModifiers())) {

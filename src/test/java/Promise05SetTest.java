@@ -29,6 +29,7 @@ public final class Promise05SetTest {
     private static void whetherItWasEmpty() {
         Run.table("8: - 0").due("set(0, 0, 0)", 1).due("set(0, 0, 0)", 0).due("set(0, 0, 1)", 0)
                 .due("set(0, 1, 0)", 0).due("clear(0, 1)", 1).due("set(0, 1, 0)", 1).column(0, "1 0");
+        Run.table("2: 1 -", "2: - 1").due("set(1, 0, 0)", 1).due("set(1, 1, 0)", 0).column(0, "1 -").column(1, "0 0");
     }
 
     private static void noSuchCell() {

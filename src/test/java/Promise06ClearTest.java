@@ -18,6 +18,7 @@ public final class Promise06ClearTest {
     private static void whetherItHadANumber() {
         Run.table("2: 0 -").due("clear(0, 0)", 1).due("clear(0, 0)", 0).due("clear(0, 1)", 0).due("set(0, 1, -2)", 1)
                 .due("clear(0, 1)", 1);
+        Run.table("2: 1 -", "2: - 1").due("clear(1, 0)", 0).due("clear(1, 1)", 1).column(0, "1 -").column(1, "- -");
     }
 
     private static void noSuchCell() {

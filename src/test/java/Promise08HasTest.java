@@ -10,7 +10,8 @@ public final class Promise08HasTest {
         p.says("5 ROWS that are EMPTY in all COLUMNS", Promise08HasTest::emptyRows);
         p.says("(all, without any),", Promise08HasTest::allRowsWithoutColumns);
         p.says("6 ACTS that an ArithmeticException kept from being done.", Promise08HasTest::actsKeptOut);
-        p.says("6 ACTS that an ArithmeticException kept from being done.", Promise08HasTest::otherRefusalsAreNotCounted);
+        p.says("6 ACTS that an ArithmeticException kept from being done.",
+                Promise08HasTest::otherRefusalsAreNotCounted);
         p.says("6 ACTS that an ArithmeticException kept from being done.", Promise08HasTest::sumsAreNotCounted);
         p.says("6 ACTS that an ArithmeticException kept from being done.", Promise08HasTest::notOfAnImage);
         p.says("NONE for others.", Promise08HasTest::noneForOthers);

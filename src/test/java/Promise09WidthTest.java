@@ -37,6 +37,8 @@ public final class Promise09WidthTest {
     }
 
     private static void leastWidthOfAll() {
+        Run.table("20: 1000 - 0", "20: 0 3 -").due("width(0, 2)", 11).due("width(1, 2)", 3);
+        Run.table("20: - 0 0", "20: 8 0 -").due("width(0, 2)", 2).due("width(1, 2)", 5);
         Run.table("63: 0 - -2 1").due("width(0, 2)", 2).call("set(0, 0, 2)").due("width(0, 2)", 3)
                 .call("set(0, 1, -129)").due("width(0, 2)", 9).call("clear(0, 1)").due("width(0, 2)", 3);
         Run.full(1, 63, -2).due("width(0, 2)", 2).call("set(0, 191, LEAST)").due("width(0, 2)", 63);

@@ -56,7 +56,8 @@ public final class Promise11MaskTest {
                 .due("mask(1, 3, 8, 7)", 1).mask(1, "7").due("mask(1, 3, 9, 8)", 0).mask(1, "");
         Run.rows(192).due("mask(1, 3, 191, 0)", 2).mask(1, "0 191").due("mask(1, 3, 64, 63)", 3).mask(1, "63 127 191")
                 .due("mask(1, 3, 192, 191)", 1).mask(1, "191").due("mask(1, 3, 193, 192)", 0)
-                .due("mask(1, 3, 2, 1)", 96);
+                .due("mask(1, 3, 2, 1)", 96).due("mask(0, 3, 1, 0)", 192).due("mask(7, 3, 96, 95)", 2)
+                .mask(7, "95 191");
     }
 
     private static void boundsOfEach() {

@@ -30,7 +30,8 @@ public final class Promise16AgainstTest {
     }
 
     private static void edgesOfWidths() {
-        Run.table("63: LEAST MOST LEAST MOST", "63: MOST LEAST LEAST MOST").due("against(1, 0, 1, 0, 0)", 1).mask(1, "0")
+        Run.table("63: LEAST MOST LEAST MOST", "63: MOST LEAST LEAST MOST").due("against(1, 0, 1, 0, 0)", 1)
+                .mask(1, "0")
                 .due("against(1, 0, 1, 5, 0)", 1).mask(1, "1").due("against(1, 0, 1, 2, 0)", 2).mask(1, "2 3");
         Run.table("2: -2 1", "63: LEAST MOST").due("against(1, 0, 1, 5, 0)", 1).mask(1, "0")
                 .due("against(1, 0, 1, 0, 0)", 1).mask(1, "1");

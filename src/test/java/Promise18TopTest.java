@@ -14,8 +14,8 @@ public final class Promise18TopTest {
     }
 
     private static void theGreatest() {
-        Run.table("63: LEAST MOST - -1 0").due("top(1, 0, 0, 1)", 1).mask(1, "1").due("top(1, 0, 0, 2)", 2).mask(1, "1 4")
-                .due("top(1, 0, 0, 3)", 3).mask(1, "1 3 4").due("top(1, 0, 0, 4)", 4).mask(1, "0 1 3 4");
+        Run.table("63: LEAST MOST - -1 0").due("top(1, 0, 0, 1)", 1).mask(1, "1").due("top(1, 0, 0, 2)", 2)
+                .mask(1, "1 4").due("top(1, 0, 0, 3)", 3).mask(1, "1 3 4").due("top(1, 0, 0, 4)", 4).mask(1, "0 1 3 4");
         Run.ramp().due("top(1, 0, 0, 3)", 3).mask(1, "189 190 191").due("top(1, 0, 0, 191)", 191)
                 .due("word(1, 0)", -2);
     }

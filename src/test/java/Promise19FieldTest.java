@@ -28,6 +28,7 @@ public final class Promise19FieldTest {
     }
 
     private static void bitsFromTo() {
+        Run.table("8: 5 - 2", "8: 2 5 5").due("field(1, 1, 0, 3, 5, 0)", 2).mask(1, "1 2");
         Run.table("8: 5 -3 - 0 -128 21").due("field(1, 0, 0, 2, 1, 0)", 3).mask(1, "0 1 5")
                 .due("field(1, 0, 2, 3, 5, 0)", 1).mask(1, "5").due("field(1, 0, 1, 2, 2, 0)", 3).mask(1, "0 1 5")
                 .due("field(1, 0, 0, 7, 0, 0)", 2).mask(1, "3 4").due("field(1, 0, 6, 2, 2, 0)", 1).mask(1, "4");

@@ -58,7 +58,7 @@ public final class Promise30ShareTest {
 
     private static void noSuchColumnOrMask() {
         Run.table("8: 1").noColumn("share(%, 0, 0, 1)").noMask("share(0, %, 0, 1)").noColumn("share(%, 0, 0, 0)")
-                .noMask("share(0, %, 2, 1)");
+                .noColumn("share(%, 0, 2, 1)").noMask("share(0, %, 0, 0)").noMask("share(0, %, 2, 1)");
         new Run().noColumn("share(%, 0, 0, 1)");
     }
 

@@ -26,6 +26,7 @@ public final class Promise35WhereTest {
                 .due("where(0, 0, NOTHING)", -1);
         Run.table("8: - -").due("where(0, 0, 0)", -1).due("where(0, 0, NOTHING)", -1);
         Run.table("8:").due("where(0, 0, 0)", -1);
+        Run.ramp().due("where(0, 0, 192)", -1).due("where(0, 0, -1)", -1);
     }
 
     private static void aNumberThatDoesNotFit() {

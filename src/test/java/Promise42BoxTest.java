@@ -68,7 +68,7 @@ public final class Promise42BoxTest {
 
     private static void noSuchColumnOrMask() {
         Run.table("8: 1").noColumn("box(%, 0, 0, 1, 0)").noMask("box(0, %, 0, 1, 0)").noColumn("box(%, 0, 0, 0, 0)")
-                .noMask("box(0, %, 0, 1, -1)");
+                .noColumn("box(%, 0, 0, 1, -1)").noMask("box(0, %, 0, 0, 0)").noMask("box(0, %, 0, 1, -1)");
         new Run().noColumn("box(%, 0, 0, 1, 0)");
     }
 

@@ -3,6 +3,7 @@ public final class Promise43AddTest {
     public static void main(String[] args) {
         Promise p = Promise.number(43);
         p.says("v is added to each number:", Promise43AddTest::underTheMask);
+        p.says("v is added to each number:", Promise43AddTest::otherColumnsStay);
         p.says("v is added to each number:", Promise43AddTest::edgesOfEachWidth);
         p.says("how many numbers there are.", Promise43AddTest::howMany);
         p.says("IndexOutOfBoundsException;", Promise43AddTest::noSuchColumnOrMask);
@@ -10,6 +11,10 @@ public final class Promise43AddTest {
         p.says("ArithmeticException.", Promise43AddTest::edgesOfALong);
         p.says("ArithmeticException.", Promise43AddTest::nothingToAddTo);
         p.end();
+    }
+
+    private static void otherColumnsStay() {
+        Run.table("8: 100 -", "8: 1 2").due("add(1, 100, 0)", 2).column(0, "100 -").column(1, "101 102");
     }
 
     private static void underTheMask() {

@@ -5,6 +5,7 @@ public final class Promise44PlusTest {
         p.says("The number of another COLUMN", Promise44PlusTest::ofAnother);
         p.says("(or the same one)", Promise44PlusTest::ofTheSame);
         p.says("in the same ROW is added", Promise44PlusTest::underTheMask);
+        p.says("in the same ROW is added", Promise44PlusTest::otherColumnsStay);
         p.says("(less: taken off),", Promise44PlusTest::takenOff);
         p.says("where both have one:", Promise44PlusTest::whereBothHaveOne);
         p.says("in how many ROWS.", Promise44PlusTest::inHowManyRows);
@@ -26,6 +27,11 @@ public final class Promise44PlusTest {
         Run.table("8: 64").doesNotFit("plus(0, 0, false, 0)");
         Run.table("8: -65").doesNotFit("plus(0, 0, false, 0)");
         Run.table("63: LEAST MOST").doesNotFit("plus(0, 0, false, 0)").due("plus(0, 0, true, 0)", 2).column(0, "0 0");
+    }
+
+    private static void otherColumnsStay() {
+        Run.table("8: 9 9 9", "8: 1 2 3", "8: 10 20 -").due("plus(1, 2, false, 0)", 2).column(0, "9 9 9")
+                .column(1, "11 22 3").due("plus(2, 1, true, 0)", 2).column(2, "-1 -2 -");
     }
 
     private static void underTheMask() {

@@ -3,6 +3,7 @@ public final class Promise45ScaleTest {
     public static void main(String[] args) {
         Promise p = Promise.number(45);
         p.says("Each number n times", Promise45ScaleTest::underTheMask);
+        p.says("Each number n times", Promise45ScaleTest::otherColumnsStay);
         p.says("(-9 .. 9):", Promise45ScaleTest::eachN);
         p.says("how many numbers.", Promise45ScaleTest::howMany);
         p.says("IndexOutOfBoundsException;", Promise45ScaleTest::noSuchColumnOrMask);
@@ -11,6 +12,10 @@ public final class Promise45ScaleTest {
         p.says("ArithmeticException.", Promise45ScaleTest::edgesOfEachN);
         p.says("ArithmeticException.", Promise45ScaleTest::edgesOfTheGreatestWidth);
         p.end();
+    }
+
+    private static void otherColumnsStay() {
+        Run.table("8: 100 -", "8: 1 2").due("scale(1, 3, 0)", 2).column(0, "100 -").column(1, "3 6");
     }
 
     private static void underTheMask() {

@@ -17,6 +17,7 @@ public final class Promise46ShiftTest {
     }
 
     private static void times() {
+        Run.table("8: 100 -", "8: 1 2").due("shift(1, 3, 0)", 2).column(0, "100 -").column(1, "8 16");
         Run.table("8: 5 - -16 15 0", "8: 1 1 1 1 1").due("shift(0, 3, 0)", 4).column(0, "40 - -128 120 0")
                 .column(1, "1 1 1 1 1");
         Run.table("8: 1 2 3 4").call("mask(1, 2, 1, 3)").due("shift(0, 1, 1)", 2).column(0, "1 4 6 4");
@@ -38,6 +39,7 @@ public final class Promise46ShiftTest {
     }
 
     private static void through() {
+        Run.table("8: 100 -", "8: 9 2").due("shift(1, -1, 0)", 2).column(0, "100 -").column(1, "4 1");
         Run.table("8: 40 - -128 120 0", "8: 8 8 8 8 8").due("shift(0, -3, 0)", 4).column(0, "5 - -16 15 0")
                 .column(1, "8 8 8 8 8");
         Run.table("8: 8 8 8 8").call("mask(1, 2, 1, 3)").due("shift(0, -1, 1)", 2).column(0, "8 4 4 8");

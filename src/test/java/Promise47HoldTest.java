@@ -6,6 +6,7 @@ public final class Promise47HoldTest {
         p.says("those above high high:", Promise47HoldTest::aboveHigh);
         p.says("how many become others.", Promise47HoldTest::howManyBecomeOthers);
         p.says("Numbers below low become low,", Promise47HoldTest::underTheMask);
+        p.says("Numbers below low become low,", Promise47HoldTest::otherColumnsStay);
         p.says("IndexOutOfBoundsException;", Promise47HoldTest::noSuchColumnOrMask);
         p.says("IllegalArgumentException: low is above high;", Promise47HoldTest::lowAboveHigh);
         p.says("IllegalArgumentException: low is above high;", Promise47HoldTest::lowAboveHighComesFirst);
@@ -29,6 +30,10 @@ public final class Promise47HoldTest {
         Run.table("63: LEAST MOST").due("hold(0, LEAST, MOST, 0)", 0).due("hold(0, MOST, MOST, 0)", 1)
                 .due("hold(0, LEAST, LEAST, 0)", 2);
         Run.full(1, 8, 9).due("hold(0, 0, 8, 0)", 192).due("get(0, 191)", 8);
+    }
+
+    private static void otherColumnsStay() {
+        Run.table("8: 100 - 3", "8: 1 2 9").due("hold(1, 2, 5, 0)", 2).column(0, "100 - 3").column(1, "2 2 5");
     }
 
     private static void underTheMask() {

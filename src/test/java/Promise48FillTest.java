@@ -23,7 +23,10 @@ public final class Promise48FillTest {
     }
 
     private static void howManyWereEmpty() {
-        Run.table("8: - - -").due("fill(0, 0, 0)", 3).due("fill(0, 0, 0)", 0).due("fill(0, 1, 0)", 0).column(0, "1 1 1");
+        Run.table("8: 1 -", "8: - 1").due("fill(1, 7, 0)", 1).column(0, "1 -").column(1, "7 7");
+        Run.table("8: 1 1", "8: - -").due("fill(1, 7, 0)", 2).due("fill(0, 7, 0)", 0);
+        Run.table("8: - - -").due("fill(0, 0, 0)", 3).due("fill(0, 0, 0)", 0).due("fill(0, 1, 0)", 0)
+                .column(0, "1 1 1");
         Run.table("8: 1 - 1").due("fill(0, 1, 0)", 1);
     }
 

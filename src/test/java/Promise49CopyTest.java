@@ -4,6 +4,7 @@ public final class Promise49CopyTest {
         Promise p = Promise.number(49);
         p.says("CELLS get what another COLUMN has there", Promise49CopyTest::whatAnotherHas);
         p.says("CELLS get what another COLUMN has there", Promise49CopyTest::underTheMask);
+        p.says("CELLS get what another COLUMN has there", Promise49CopyTest::otherColumnsStay);
         p.says("CELLS get what another COLUMN has there", Promise49CopyTest::ofItself);
         p.says("(EMPTY, too):", Promise49CopyTest::emptyToo);
         p.says("in how many ROWS it is something else then.", Promise49CopyTest::somethingElse);
@@ -16,6 +17,11 @@ public final class Promise49CopyTest {
     private static void whatAnotherHas() {
         Run.table("8: 5 - -3", "20: 7 8 9").due("copy(0, 1, 0)", 3).column(0, "7 8 9").column(1, "7 8 9")
                 .due("width(0, 0)", 8);
+    }
+
+    private static void otherColumnsStay() {
+        Run.table("8: 9 9 9", "8: 1 2 3", "8: 10 20 -").due("copy(1, 2, 0)", 3).column(0, "9 9 9").column(1, "10 20 -")
+                .column(2, "10 20 -");
     }
 
     private static void underTheMask() {
@@ -61,8 +67,8 @@ public final class Promise49CopyTest {
         for (int width = 2; width <= 62; width++) {
             long least = -(1L << (width - 1));
             long most = (1L << (width - 1)) - 1;
-            Run.table(width + ": - -", "63: " + least + " " + most).due("copy(0, 1, 0)", 2).column(0, least + " " + most)
-                    .call("set(1, 1, " + (most + 1) + ")").doesNotFit("copy(0, 1, 0)")
+            Run.table(width + ": - -", "63: " + least + " " + most).due("copy(0, 1, 0)", 2)
+                    .column(0, least + " " + most).call("set(1, 1, " + (most + 1) + ")").doesNotFit("copy(0, 1, 0)")
                     .call("set(1, 1, " + (least - 1) + ")").doesNotFit("copy(0, 1, 0)")
                     .due("copy(1, 0, 0)", 1).column(1, least + " " + most);
         }

@@ -2,7 +2,10 @@
 public final class Promise50PickTest {
     public static void main(String[] args) {
         Promise p = Promise.number(50);
-        p.says("Numbers become what of theirs and of another COLUMN's in the same ROW,", Promise50PickTest::underTheMask);
+        p.says("Numbers become what of theirs and of another COLUMN's in the same ROW,",
+                Promise50PickTest::underTheMask);
+        p.says("Numbers become what of theirs and of another COLUMN's in the same ROW,",
+                Promise50PickTest::otherColumnsStay);
         p.says("Numbers become what of theirs and of another COLUMN's in the same ROW,", Promise50PickTest::ofItself);
         p.says("if that has one,", Promise50PickTest::ifThatHasOne);
         p.says("is less", Promise50PickTest::theLess);
@@ -12,6 +15,11 @@ public final class Promise50PickTest {
         p.says("ArithmeticException.", Promise50PickTest::allOrNone);
         p.says("ArithmeticException.", Promise50PickTest::whatIsNotPickedNeedNotFit);
         p.end();
+    }
+
+    private static void otherColumnsStay() {
+        Run.table("8: 9 -9 7", "8: 1 -1 0", "8: 2 -2 -").due("pick(1, 2, true, 0)", 1).column(1, "2 -1 0")
+                .due("pick(1, 2, false, 0)", 1).column(0, "9 -9 7").column(1, "2 -2 0").column(2, "2 -2 -");
     }
 
     private static void underTheMask() {

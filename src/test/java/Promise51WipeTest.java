@@ -14,6 +14,7 @@ public final class Promise51WipeTest {
     }
 
     private static void howManyHadANumber() {
+        Run.table("8: 1 -", "8: - 1").due("wipe(1, 0)", 1).column(0, "1 -").column(1, "- -");
         Run.table("63: LEAST - 0 MOST").due("wipe(0, 0)", 3).due("wipe(0, 0)", 0).column(0, "- - - -");
         Run.table("8:").due("wipe(0, 0)", 0);
         Run.full(6, 8, 0).due("wipe(5, 0)", 192).due("get(5, 0)", Run.NOTHING).due("get(5, 191)", Run.NOTHING)

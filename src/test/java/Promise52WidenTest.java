@@ -62,6 +62,9 @@ public final class Promise52WidenTest {
     }
 
     private static void oneOfAll() {
+        Run.table("20: 1000 - 0", "20: 0 3 -").due("widen(1, 3)", 20).doesNotFit("widen(0, 3)")
+                .doesNotFit("widen(1, 2)");
+        Run.table("20: - 0", "20: 8 0").doesNotFit("widen(1, 4)").due("widen(0, 2)", 20).due("widen(1, 5)", 20);
         Run.full(1, 8, 1).call("set(0, 191, 2)").doesNotFit("widen(0, 2)").due("widen(0, 3)", 8);
         Run.full(1, 8, 1).call("set(0, 0, -3)").doesNotFit("widen(0, 2)").due("widen(0, 3)", 8);
     }

@@ -40,7 +40,8 @@ public final class Promise53RemoveTest {
     }
 
     private static void overWords() {
-        Run.ramp().call("mask(1, 2, 0, 1)").call("mask(2, 2, 64, 65)").call("mask(3, 2, 191, 192)").due("remove(1)", 191)
+        Run.ramp().call("mask(1, 2, 0, 1)").call("mask(2, 2, 64, 65)").call("mask(3, 2, 191, 192)")
+                .due("remove(1)", 191)
                 .mask(2, "63").mask(3, "190").due("get(0, 0)", 1).due("get(0, 63)", 64).due("get(0, 190)", 191)
                 .call("mask(1, 3, 2, 0)").due("remove(1)", 95).mask(2, "31").mask(3, "").due("get(0, 94)", 190)
                 .due("row(0, NONE)", 95);

@@ -15,8 +15,8 @@ public final class Promise56ReverseTest {
     }
 
     private static void inAllColumnsAndMasks() {
-        six().due("reverse()", 6).column(0, "- 3 2 - 1 3").column(1, "15 - 13 12 11 10").mask(1, "1 2 4").mask(7, "0 1 5")
-                .mask(0, "0 1 2 3 4 5").mask(2, "").due("width(1, 0)", 20);
+        six().due("reverse()", 6).column(0, "- 3 2 - 1 3").column(1, "15 - 13 12 11 10").mask(1, "1 2 4")
+                .mask(7, "0 1 5").mask(0, "0 1 2 3 4 5").mask(2, "").due("width(1, 0)", 20);
     }
 
     private static void overWords() {

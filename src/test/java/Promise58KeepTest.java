@@ -4,6 +4,7 @@ public final class Promise58KeepTest {
         Promise p = Promise.number(58);
         p.says("IMAGE k (0, 1)", Promise58KeepTest::eachImageApart);
         p.says("of the table", Promise58KeepTest::ofTheTable);
+        p.says("of the table", Promise58KeepTest::ofAllColumns);
         p.says("and all MASKS", Promise58KeepTest::ofAllMasks);
         p.says("is kept:", Promise58KeepTest::nothingElseChanges);
         p.says("is kept:", Promise58KeepTest::keptAnew);
@@ -30,6 +31,25 @@ public final class Promise58KeepTest {
         for (String change : changes) {
             two().call("keep(0)").call(change).due("back(0)", 4).like(two());
             two().call("keep(1)").call(change).due("back(1)", 4).like(two());
+        }
+    }
+
+    private static Run sixColumns() {
+        Run run = Run.rows(192);
+        for (int c = 0; c < 6; c++) {
+            run.call("column(" + (10 + c) + ")").call("fill(" + c + ", " + c + ", 0)")
+                    .call("clear(" + c + ", " + c + ")");
+        }
+        return run;
+    }
+
+    private static void ofAllColumns() {
+        for (int k = 0; k < 2; k++) {
+            Run run = sixColumns().due("keep(" + k + ")", 192);
+            for (int c = 0; c < 6; c++) {
+                run.call("fill(" + c + ", 9, 0)").call("widen(" + c + ", 5)");
+            }
+            run.due("back(" + k + ")", 192).like(sixColumns());
         }
     }
 

@@ -22,8 +22,10 @@ public final class TermsTest {
                 + " an ArithmeticException, and nothing is changed.", TermsTest::allOrNone);
         p.says("EMPTY CELLS are left EMPTY,", TermsTest::leftEmpty);
         p.says("but by set(), fill(), copy().", TermsTest::notLeftEmpty);
-        p.says("When several refusals fit one call: first IndexOutOfBoundsException (no such COLUMN, ROW, MASK, image,"
-                + " bit, word),", TermsTest::indexComesFirst);
+        p.says("When several refusals fit one call: first IndexOutOfBoundsException (no such COLUMN,",
+                TermsTest::noColumnComesFirst);
+        p.says("ROW, MASK, image, bit, word),", TermsTest::noMaskComesFirst);
+        p.says("ROW, MASK, image, bit, word),", TermsTest::noRowBitWordOrImageComesFirst);
         p.says("then IllegalArgumentException (another number that can't be),", TermsTest::argumentComesNext);
         p.says("then IllegalStateException (as told), then ArithmeticException.", TermsTest::stateAndArithmetic);
         p.says("A refused call changes nothing.", TermsTest::refusedCallsChangeNothing);
@@ -108,9 +110,9 @@ public final class TermsTest {
     private static void asksUnderAMask() {
         String[] calls = {"compare(2, 0, 3, 99, 1)", "against(2, 0, 1, 0, 1)", "empty(2, 2, 1)", "top(2, 0, 1, 9)",
             "field(2, 0, 0, 1, 1, 1)", "firsts(2, 1)", "count(0, 1)", "sum(0, 1)", "mean(0, 1, 0)", "kth(0, 1, 0)",
-            "kth(0, 1, -1)", "share(0, 1, 1, 1)", "upset(0, 1)", "rank(0, 1, 99, 0)", "unlike(0, 1, 0)", "ones(0, 0, 1)",
-            "where(0, 1, 3)", "dot(0, 1, 1)", "steps(0, 1)", "upTo(0, 2, 1)", "fold(0, 1, 1)", "spread(0, 1)",
-            "nearest(0, 1, 9)", "box(0, 1, 0, 99, 0)"};
+            "kth(0, 1, -1)", "share(0, 1, 1, 1)", "upset(0, 1)", "rank(0, 1, 99, 0)", "unlike(0, 1, 0)",
+            "ones(0, 0, 1)", "where(0, 1, 3)", "dot(0, 1, 1)", "steps(0, 1)", "upTo(0, 2, 1)", "fold(0, 1, 1)",
+            "spread(0, 1)", "nearest(0, 1, 9)", "box(0, 1, 0, 99, 0)"};
         long[] due = {1, 1, 1, 1, 1, 1, 1, 3, 3, 3, 3, 3, 0, 1, 1, 1, 1, 12, 0, 3, 3, 0, 3, 1};
         long[] underNone = {0, 0, 0, 0, 0, 0, 0, 0, 0, Run.NOTHING, Run.NOTHING, Run.NOTHING, 0, 0, 0, 0, -1, 0, 0, 0,
             0, 0, Run.NOTHING, 0};
@@ -126,8 +128,8 @@ public final class TermsTest {
     }
 
     private static void actsUnderAMask() {
-        String[] calls = {"add(0, 1, 1)", "plus(0, 1, false, 1)", "scale(0, 2, 1)", "shift(0, 1, 1)", "hold(0, 0, 1, 1)",
-            "fill(0, 9, 1)", "copy(0, 1, 1)", "pick(0, 1, true, 1)", "wipe(0, 1)"};
+        String[] calls = {"add(0, 1, 1)", "plus(0, 1, false, 1)", "scale(0, 2, 1)", "shift(0, 1, 1)",
+            "hold(0, 0, 1, 1)", "fill(0, 9, 1)", "copy(0, 1, 1)", "pick(0, 1, true, 1)", "wipe(0, 1)"};
         String[] due = {"7 4 5", "7 7 5", "7 6 5", "7 6 5", "7 1 5", "7 9 5", "7 4 5", "7 4 5", "7 - 5"};
         for (int i = 0; i < calls.length; i++) {
             Run.table("8: 7 3 5", "8: 8 4 6").call("mask(1, 2, 1, 2)").call(calls[i]).column(0, due[i])
@@ -178,19 +180,20 @@ public final class TermsTest {
     /** The one that does not FIT stands first, in between and last; by itself each other one would come. */
     private static void allOrNone() {
         for (String cells : new String[] {"127 1 - 1", "1 127 - 1", "1 - 1 127"}) {
-            Run.table("8: " + cells, "20: 200 200 200 200").doesNotFit("add(0, 1, 0)").doesNotFit("plus(0, 0, false, 0)")
-                    .doesNotFit("plus(0, 1, false, 0)").doesNotFit("scale(0, 2, 0)").doesNotFit("shift(0, 1, 0)")
-                    .doesNotFit("hold(0, 0, 200, 0)").doesNotFit("fill(0, 200, 0)").doesNotFit("copy(0, 1, 0)")
-                    .doesNotFit("pick(0, 1, true, 0)").doesNotFit("widen(0, 7)").column(0, cells).due("has(6)", 10);
+            Run.table("8: " + cells, "20: 200 200 200 200").doesNotFit("add(0, 1, 0)")
+                    .doesNotFit("plus(0, 0, false, 0)").doesNotFit("plus(0, 1, false, 0)").doesNotFit("scale(0, 2, 0)")
+                    .doesNotFit("shift(0, 1, 0)").doesNotFit("hold(0, 0, 200, 0)").doesNotFit("fill(0, 200, 0)")
+                    .doesNotFit("copy(0, 1, 0)").doesNotFit("pick(0, 1, true, 0)").doesNotFit("widen(0, 7)")
+                    .column(0, cells).due("has(6)", 10);
         }
         Run.table("8: 1 1 1", "20: 2 2 200").doesNotFit("copy(0, 1, 0)").doesNotFit("pick(0, 1, true, 0)")
                 .doesNotFit("plus(0, 1, false, 0)").column(0, "1 1 1");
     }
 
     private static void leftEmpty() {
-        String[] acts = {"add(0, 5, 0)", "plus(0, 1, false, 0)", "plus(0, 0, true, 0)", "scale(0, 0, 0)", "shift(0, 1, 0)",
-            "shift(0, -1, 0)", "hold(0, 5, 6, 0)", "pick(0, 1, true, 0)", "pick(0, 1, false, 0)", "wipe(0, 0)",
-            "widen(0, 2)", "widen(0, 63)"};
+        String[] acts = {"add(0, 5, 0)", "plus(0, 1, false, 0)", "plus(0, 0, true, 0)", "scale(0, 0, 0)",
+            "shift(0, 1, 0)", "shift(0, -1, 0)", "hold(0, 5, 6, 0)", "pick(0, 1, true, 0)", "pick(0, 1, false, 0)",
+            "wipe(0, 0)", "widen(0, 2)", "widen(0, 63)"};
         for (String act : acts) {
             Run.table("8: - -", "8: 1 -1").call(act).column(0, "- -").column(1, "1 -1");
         }
@@ -210,31 +213,39 @@ public final class TermsTest {
                 .call("keep(0)").call("set(1, 0, 0)").call("bits(2, 0, 6)").call("keep(1)").call("set(1, 0, 1)");
     }
 
-    /** Each call that has an index, with all else that can be wrong in it. */
-    private static void indexComesFirst() {
-        Run run = atTheEdge();
-        String[] columns = {"set(%, 0, MAX)", "width(%, 3)", "compare(0, %, 6, 0, 0)", "against(0, %, 0, 6, 0)",
+    /** Each call that takes a column, with all else that can be wrong in it. */
+    private static void noColumnComesFirst() {
+        String[] calls = {"set(%, 0, MAX)", "width(%, 3)", "compare(0, %, 6, 0, 0)", "against(0, %, 0, 6, 0)",
             "against(0, 0, %, 6, 0)", "top(0, %, 0, -1)", "field(0, %, 0, 0, 0, 0)", "sum(%, 0)", "mean(%, 7, 2)",
-            "mean(%, 7, 0)", "share(%, 0, 2, 1)", "rank(%, 0, 0, 3)", "unlike(%, 0, 3)", "dot(%, 0, 0)", "dot(0, %, 0)",
-            "steps(%, 0)", "upTo(%, 4, 0)", "fold(%, 0, 3)", "spread(%, 0)", "box(%, 0, 0, 0, 0)", "add(%, 1, 0)",
-            "plus(%, 0, false, 0)", "plus(1, %, false, 0)", "scale(%, 10, 0)", "scale(%, 9, 0)", "shift(%, 63, 0)",
-            "shift(%, 0, 0)", "shift(%, 62, 0)", "hold(%, 1, 0, 0)", "hold(%, MIN, MAX, 0)", "fill(%, MAX, 0)",
-            "copy(%, 0, 0)", "copy(1, %, 0)", "pick(%, 0, true, 0)", "pick(1, %, true, 0)", "widen(%, 1)"};
-        for (String call : columns) {
+            "mean(%, 7, 0)", "share(%, 0, 2, 1)", "share(%, 0, 0, 0)", "rank(%, 0, 0, 3)", "unlike(%, 0, 3)",
+            "dot(%, 0, 0)", "dot(0, %, 0)", "steps(%, 0)", "upTo(%, 4, 0)", "fold(%, 0, 3)", "spread(%, 0)",
+            "box(%, 0, 0, 0, 0)", "box(%, 0, 0, 1, -1)", "add(%, 1, 0)", "plus(%, 0, false, 0)", "plus(1, %, false, 0)",
+            "scale(%, 10, 0)", "scale(%, 9, 0)", "shift(%, 63, 0)", "shift(%, 0, 0)", "shift(%, 62, 0)",
+            "hold(%, 1, 0, 0)", "hold(%, MIN, MAX, 0)", "fill(%, MAX, 0)", "copy(%, 0, 0)", "copy(1, %, 0)",
+            "pick(%, 0, true, 0)", "pick(1, %, true, 0)", "widen(%, 1)"};
+        Run run = atTheEdge();
+        for (String call : calls) {
             run.noColumn(call);
         }
-        String[] masks = {"mask(%, 4, 0, 0)", "join(%, 0, 0, 4)", "join(0, %, 0, 4)", "join(0, 0, %, 4)",
+    }
+
+    /** Each call that takes a mask, with all else that can be wrong in it. */
+    private static void noMaskComesFirst() {
+        String[] calls = {"mask(%, 4, 0, 0)", "join(%, 0, 0, 4)", "join(0, %, 0, 4)", "join(0, 0, %, 4)",
             "compare(%, 0, 6, 0, 0)", "compare(0, 0, 6, 0, %)", "against(%, 0, 1, 6, 0)", "against(0, 0, 1, 6, %)",
             "top(%, 0, 0, -1)", "top(0, 0, %, -1)", "field(%, 0, 0, 0, 0, 0)", "field(0, 0, 0, 0, 0, %)",
             "move(%, 0, 193)", "move(0, %, 193)", "runs(%, 3)", "sum(0, %)", "mean(0, %, 2)", "share(0, %, 2, 1)",
-            "rank(0, %, 0, 3)", "unlike(0, %, 3)", "dot(0, 0, %)", "steps(0, %)", "upTo(0, 4, %)", "fold(0, %, 3)",
-            "spread(0, %)", "box(0, %, 0, 0, 0)", "add(0, 1, %)", "plus(0, 0, false, %)", "scale(0, 10, %)",
-            "shift(0, 63, %)", "shift(0, 0, %)", "hold(0, 1, 0, %)", "hold(0, MIN, MAX, %)", "fill(0, MAX, %)",
-            "copy(1, 0, %)", "pick(1, 0, true, %)"};
-        run = atTheEdge();
-        for (String call : masks) {
+            "share(0, %, 0, 0)", "rank(0, %, 0, 3)", "unlike(0, %, 3)", "dot(0, 0, %)", "steps(0, %)", "upTo(0, 4, %)",
+            "fold(0, %, 3)", "spread(0, %)", "box(0, %, 0, 0, 0)", "box(0, %, 0, 1, -1)", "add(0, 1, %)",
+            "plus(0, 0, false, %)", "scale(0, 10, %)", "shift(0, 63, %)", "shift(0, 0, %)", "hold(0, 1, 0, %)",
+            "hold(0, MIN, MAX, %)", "fill(0, MAX, %)", "copy(1, 0, %)", "pick(1, 0, true, %)"};
+        Run run = atTheEdge();
+        for (String call : calls) {
             run.noMask(call);
         }
+    }
+
+    private static void noRowBitWordOrImageComesFirst() {
         atTheEdge().noRow("set(0, %, MAX)").noRow("upTo(0, %, 0)").noBit("field(0, 0, %, 0, 0, 0)", 63)
                 .noBit("slice(0, %, 0)", 63).noBit("ones(0, %, 0)", 63).noWord("slice(0, 0, %)").noWord("bits(0, %, 1)")
                 .noWord("word(0, %)").noImage("keep(%)").noImage("back(%)");
@@ -253,8 +264,8 @@ public final class TermsTest {
 
     /** No call names both of these, but each has one of them when nothing ahead of it fits. */
     private static void stateAndArithmetic() {
-        atTheEdge().refused("column(2)", Run.STATE).refused("mean(0, 7, 0)", Run.STATE).refused("sum(0, 0)", Run.ARITHMETIC)
-                .doesNotFit("add(0, 1, 0)");
+        atTheEdge().refused("column(2)", Run.STATE).refused("mean(0, 7, 0)", Run.STATE)
+                .refused("sum(0, 0)", Run.ARITHMETIC).doesNotFit("add(0, 1, 0)");
         Run.rows(192).refused("rows(1)", Run.STATE);
         new Run().refused("back(0)", Run.STATE).refused("back(1)", Run.STATE);
     }
