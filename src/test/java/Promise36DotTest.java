@@ -72,6 +72,14 @@ public final class Promise36DotTest {
         Run.table("63: LEAST", "63: LEAST").refused("dot(0, 1, 0)", Run.ARITHMETIC);
         Run.table("63: LEAST", "63: MOST").refused("dot(0, 1, 0)", Run.ARITHMETIC);
         Run.table("63: 4294967296").refused("dot(0, 0, 0)", Run.ARITHMETIC);
+        // All powers of two that are no longs, and what is below 0 and no long.
+        for (int power = 63; power <= 122; power++) {
+            long x = 1L << (power / 2);
+            long y = 1L << (power - power / 2);
+            Run.table("63: " + x + " 0", "63: " + y + " 1").refused("dot(0, 1, 0)", Run.ARITHMETIC)
+                    .call("set(0, 1, 1)").refused("dot(0, 1, 0)", Run.ARITHMETIC);
+            Run.table("63: " + -x + " -1", "63: " + y + " 1").refused("dot(0, 1, 0)", Run.ARITHMETIC);
+        }
         Run.full(1, 63, Run.LEAST).refused("dot(0, 0, 0)", Run.ARITHMETIC);
         Run.full(2, 63, Run.LEAST).call("fill(1, MOST, 0)").refused("dot(0, 1, 0)", Run.ARITHMETIC);
     }

@@ -8,6 +8,7 @@ public final class Promise42BoxTest {
         p.says("How many numbers are low and step times k or more,", Promise42BoxTest::noneAndAll);
         p.says("(step 1 and on, k 0 and on;", Promise42BoxTest::leastAndGreatest);
         p.says("both bounds whole numbers, however great).", Promise42BoxTest::boundsThatAreNoLongs);
+        p.says("both bounds whole numbers, however great).", Promise42BoxTest::powersOfTwo);
         p.says("both bounds whole numbers, however great).", Promise42BoxTest::fromTheLeastLong);
         p.says("IndexOutOfBoundsException;", Promise42BoxTest::noSuchColumnOrMask);
         p.says("IllegalArgumentException: step,", Promise42BoxTest::noSuchStep);
@@ -56,6 +57,14 @@ public final class Promise42BoxTest {
                 .due("box(0, 0, 0, 8589934592, MAX)", 0).due("box(0, 0, 0, 4611686018427387904, 1)", 0)
                 .due("box(0, 0, -1, 4611686018427387904, 1)", 1)
                 .due("box(0, 0, LEAST, 4611686018427387904, 1)", 3);
+    }
+
+    private static void powersOfTwo() {
+        for (int power = 63; power <= 92; power++) {
+            long step = 1L << (power - 30);
+            Run.table("63: LEAST -1 0 1 MOST").due("box(0, 0, 0, " + step + ", 1073741824)", 0)
+                    .due("box(0, 0, 1, " + step + ", 1073741824)", 0).due("box(0, 0, -1, " + step + ", 1073741824)", 0);
+        }
     }
 
     private static void fromTheLeastLong() {

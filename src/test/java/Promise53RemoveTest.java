@@ -6,6 +6,7 @@ public final class Promise53RemoveTest {
         p.says("ROWS of a MASK go:", Promise53RemoveTest::inAllMasks);
         p.says("ROWS of a MASK go:", Promise53RemoveTest::overWords);
         p.says("ROWS of a MASK go:", Promise53RemoveTest::noneAndAll);
+        p.says("ROWS of a MASK go:", Promise53RemoveTest::nothingOfThemIsLeft);
         p.says("ROWS of a MASK go:", Promise53RemoveTest::imagesStay);
         p.says("how many are left.", Promise53RemoveTest::howManyAreLeft);
         p.says("IndexOutOfBoundsException.", Promise53RemoveTest::noSuchMask);
@@ -53,6 +54,22 @@ public final class Promise53RemoveTest {
                 .due("has(5)", 0).due("has(4)", 28).due("remove(0)", 0).due("rows(1)", 1).column(0, "-");
         Run.full(6, 8, 1).due("remove(0)", 0).due("has(0)", 0).due("has(1)", 6);
         new Run().due("remove(0)", 0);
+    }
+
+    /** What is called behind remove() answers as if the rows had never been, though they had other numbers. */
+    private static void nothingOfThemIsLeft() {
+        String[] calls = {"sort(0, false)", "sort(0, true)", "reverse()", "first(0)", "firsts(0, 0)", "add(0, 1, 0)",
+            "plus(0, 1, false, 0)", "scale(0, 2, 0)", "shift(0, 1, 0)", "hold(0, 4, 5, 0)", "fill(0, 9, 0)",
+            "copy(0, 1, 0)", "pick(0, 1, true, 0)", "wipe(0, 0)", "widen(0, 3)", "widen(1, 4)", "sum(1, 0)",
+            "count(1, 0)", "kth(1, 0, -1)", "has(2)", "has(3)", "has(5)", "width(1, 2)", "width(1, 1)", "turn(0, 0)",
+            "mask(0, 0, 0, 0)", "slice(1, 9, 0)", "rows(3)", "where(1, 0, 1000)", "upTo(1, 0, 0)", "rank(1, 0, 9, 2)",
+            "set(0, 0, 1)", "clear(0, 0)", "swap(0, 1)", "drop(0)", "column(9)", "keep(0)", "compare(0, 1, 5, 9, 0)",
+            "empty(0, 1, 0)", "move(0, 0, 0)", "top(0, 1, 0, 9)", "row(0, NONE)", "runs(0, 1)", "remove(0)"};
+        for (String call : calls) {
+            Run had = Run.table("8: 100 3 - 90", "20: 1000 7 - 2000").call("bits(1, 0, 13)").call("add(1, 1, 1)")
+                    .call("remove(1)");
+            had.sameAs(Run.table("8: 3", "20: 7"), call);
+        }
     }
 
     private static void imagesStay() {

@@ -62,6 +62,7 @@ public final class Promise55SortTest {
     private static void noneAndAll() {
         Run.table("8:").due("sort(0, false)", 0).due("sort(0, true)", 0);
         Run.table("8: 5").due("sort(0, false)", 0);
+        Run.table("8: 3 9 1 8").call("bits(1, 0, 10)").call("remove(1)").due("sort(0, false)", 2).column(0, "1 3");
         Run.table("8: - - -", "8: 3 1 2").due("sort(0, false)", 0).due("sort(0, true)", 0).column(1, "3 1 2");
         Run.full(6, 8, 1).due("sort(5, true)", 0).call("set(5, 0, 0)").due("sort(5, true)", 192)
                 .due("get(5, 191)", 0).due("sort(5, false)", 192).due("get(5, 0)", 0);

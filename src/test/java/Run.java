@@ -242,6 +242,12 @@ final class Run {
         return this;
     }
 
+    /** A call is answered as in another run, and all is as there then. */
+    Run sameAs(Run other, String text) {
+        Check.isText(text + behind(), other.outcome(text), outcome(text));
+        return like(other);
+    }
+
     private String behind() {
         return told.isEmpty() ? " of a new object" : " after " + told.get(told.size() - 1);
     }
