@@ -968,8 +968,8 @@ public final class SliceColumns {
     }
 
     private void includeEach(int step, int from, int end) {
-        // A step of all ROWS goes as far as any greater one, and the counter does not overflow.
-        int stride = Math.min(step, MOST_ROWS);
+        // Below 1 the loop would have no end; a step of all ROWS goes as far as any greater one, which might overflow.
+        int stride = Math.max(1, Math.min(step, MOST_ROWS));
         for (int row = from; row < end; row += stride) {
             include(row);
         }

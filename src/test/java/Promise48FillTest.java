@@ -51,6 +51,7 @@ public final class Promise48FillTest {
     private static void alsoWithoutRows() {
         Run.table("2:").due("fill(0, 1, 0)", 0).due("fill(0, -2, 0)", 0).doesNotFit("fill(0, 2, 0)")
                 .doesNotFit("fill(0, -3, 0)").due("has(6)", 2);
-        Run.table("2: - 1").due("fill(0, 1, 7)", 0).doesNotFit("fill(0, 2, 7)").doesNotFit("fill(0, -3, 7)");
+        Run.table("2: - 1").due("fill(0, 1, 7)", 0).doesNotFit("fill(0, 2, 7)").column(0, "- 1");
+        Run.table("2: - 1").doesNotFit("fill(0, -3, 7)");
     }
 }
