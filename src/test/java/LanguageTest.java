@@ -18,13 +18,13 @@ import java.util.regex.Pattern;
 public final class LanguageTest {
     private static final Path SOURCE = Path.of(System.getProperty("project"), "src/main/java/SliceColumns.java");
     private static final Pattern COMMENT = Pattern.compile("(?s)/\\*.*?\\*/|//[^\\n]*");
-    private static final Pattern TOKEN =
-            Pattern.compile("\\n|\"(?:\\\\.|[^\"\\\\])*\"|'(?:\\\\.|[^'\\\\])*'|\\w+|->|::|[-+*/%&|^!=<>]=|&&|\\|\\||\\S");
+    private static final Pattern TOKEN = Pattern.compile(
+            "\\n|\"(?:\\\\.|[^\"\\\\])*\"|'(?:\\\\.|[^'\\\\])*'|\\w+|->|::|[-+*/%&|^!=<>]=|&&|\\|\\||\\S");
 
-    private static final Set<String> NOT_HERE = Set.of("package", "import", "protected", "synchronized", "assert", "try",
-            "catch", "finally", "volatile", "transient", "native", "strictfp", "double", "float", "instanceof", "record",
-            "interface", "enum", "extends", "implements", "goto", "var", "yield", "->", "::", "@", "equals", "hashCode",
-            "toString", "getClass", "Object", "Thread");
+    private static final Set<String> NOT_HERE = Set.of("package", "import", "protected", "synchronized", "assert",
+            "try", "catch", "finally", "volatile", "transient", "native", "strictfp", "double", "float", "instanceof",
+            "record", "interface", "enum", "extends", "implements", "goto", "var", "yield", "->", "::", "@", "equals",
+            "hashCode", "toString", "getClass", "Object", "Thread");
     private static final Set<String> EXCEPTIONS = Set.of("IllegalStateException", "IllegalArgumentException",
             "IndexOutOfBoundsException", "ArithmeticException");
     private static final Set<String> LIBRARY = Set.of("Math.max", "Math.min", "Math.abs", "Math.floorDiv",
